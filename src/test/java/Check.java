@@ -40,8 +40,18 @@ final class Check {
         try {
             return String.valueOf(call.answer());
         } catch (RuntimeException thrown) {
-            return "throws." + thrown.getClass().getSimpleName();
+            return "throws." + thrown.getClass().getSimpleName() + (thrownByThrow(thrown) ? "" : " of the machine");
         }
+    }
+
+    /** Whether a throw statement of the program did it, and no index or reference inside the library. */
+    private static boolean thrownByThrow(RuntimeException thrown) {
+        StackTraceElement[] trace = thrown.getStackTrace();
+        if (trace.length == 0) {
+            return false;
+        }
+        String where = trace[0].getClassName();
+        return where.startsWith("MarketAwnings") || where.equals("Model");
     }
 
     /** The call throws just this, and changes nothing that the square tells. */

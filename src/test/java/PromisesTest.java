@@ -212,6 +212,8 @@ public final class PromisesTest {
         Check.is("stall: same row", square.stall(1, 0), 3);
         Check.refuses(square, "stall: one is there", STATE, () -> square.stall(23, 23));
         Check.refuses(square, "stall: one is there", STATE, () -> square.stall(0, 0));
+        Check.refuses(square, "stall: one is there", STATE, () -> square.stall(1, 0));
+        Check.is("stall: a column is no row", square.stall(23, 0), 4);
         for (int wrong : new int[] {-1, 24, MIN, MAX}) {
             Check.refuses(square, "stall: x " + wrong, INDEX, () -> square.stall(wrong, 5));
             Check.refuses(square, "stall: y " + wrong, INDEX, () -> square.stall(5, wrong));
@@ -382,6 +384,9 @@ public final class PromisesTest {
             Check.is("about(0, " + what + ")", square.about(0, what), first[what]);
             Check.is("about(1, " + what + ")", square.about(1, what), second[what]);
         }
+        square.hang(15, 1, 2, 3, 1, LEFT);
+        Check.is("about: alone, far to the right", square.about(2, 7), 6);
+        square.take(2);
         square.roll(1);
         Check.is("about: one that is in covers none", square.about(1, 7), 0);
         Check.is("about: and takes none of the other one's", square.about(0, 7), 24);
@@ -441,6 +446,8 @@ public final class PromisesTest {
             Check.is("cord(4, " + what + ")", square.cord(4, what), right[what]);
             Check.is("cord(0, " + what + ")", square.cord(0, what), 0);
         }
+        square.hang(12, 0, 1, 1, 1, LEFT);
+        Check.is("cord: the most, in the first row", square.cord(12, 3), 1);
         square.hang(0, 0, 1, 24, 1, 0);
         Check.is("cord: the longest there can be", square.cord(0, 2), 24);
         Check.is("cord: one run", square.cord(0, 1), 1);
@@ -547,6 +554,12 @@ public final class PromisesTest {
         Check.is("count: outline of a ring, inside too", square.count(4), 8 + 6 + 20 + 12);
         square.hang(12, 12, 1, 1, 1, LEFT);
         Check.is("count: a part within a ring", square.count(5), 4);
+        MarketAwnings hook = new MarketAwnings();
+        hook.hang(5, 4, 1, 6, 1, LEFT);
+        hook.hang(3, 9, 3, 1, 1, LEFT);
+        hook.hang(3, 6, 1, 4, 1, LEFT);
+        Check.is("count: a part that goes down, to the left, and up", hook.count(5), 1);
+        Check.is("count: its outline", hook.count(4), 24);
         MarketAwnings whole = new MarketAwnings();
         whole.hang(0, 0, 24, 24, 1, LEFT);
         Check.is("count: outline of the square", whole.count(4), 96);
@@ -582,9 +595,17 @@ public final class PromisesTest {
         Check.is("would: covered", square.would(1, 20), 0);
         Check.is("would: on bare ground", square.would(2, 20), 20);
         Check.is("would: the least", square.would(2, 1), 1);
+        square.stall(20, 4);
+        Check.is("would: a column is no row", square.would(3, 3), 3);
+        square.take(0);
+        square.hang(20, 2, 1, 2, 3, DOWN);
+        Check.is("would: a column is no row", square.would(3, 3), 9);
+        square.take(0);
+        square.hang(2, 2, 5, 2, 3, DOWN);
+        before = square.digest();
         Check.is("would: again the same", square.would(0, 3), 9);
         Check.is("would: changes nothing", square.digest(), before);
-        for (int wrong : new int[] {-1, 3, MIN, MAX}) {
+        for (int wrong : new int[] {-1, 4, MIN, MAX}) {
             Check.refuses(square, "would: stall " + wrong, INDEX, () -> square.would(wrong, 1));
             Check.refuses(square, "would: index before argument", INDEX, () -> square.would(wrong, 0));
         }
