@@ -711,6 +711,12 @@ public final class PromisesTest {
     }
 
     private static void digestOrder() {
+        Check.is("digest: all in their order", wetAndCovered().digest(), Squares.digestByCalls(() -> wetAndCovered()));
+        MarketAwnings square = wetAndCovered();
+        Check.is("digest: again the same", square.digest(), square.digest());
+    }
+
+    private static MarketAwnings wetAndCovered() {
         MarketAwnings square = new MarketAwnings();
         square.hang(3, 5, 7, 2, 4, RIGHT);
         square.hang(4, 2, 3, 8, 6, UP);
@@ -721,35 +727,6 @@ public final class PromisesTest {
         square.stall(10, 5);
         square.rain(7);
         square.roll(2);
-        Check.is("digest: all in their order", square.digest(), digestByCalls(square));
-        Check.is("digest: again the same", square.digest(), digestByCalls(square));
-    }
-
-    private static long digestByCalls(MarketAwnings square) {
-        long d = 1741;
-        for (int what = 0; what <= 10; what++) {
-            d = d * 31 + square.count(what);
-        }
-        for (int i = 0; i < square.count(0); i++) {
-            for (int what = 0; what <= 8; what++) {
-                d = d * 31 + square.about(i, what);
-            }
-        }
-        for (int i = 0; i < square.count(2); i++) {
-            for (int what = 0; what <= 3; what++) {
-                d = d * 31 + square.told(i, what);
-            }
-        }
-        for (int column = 0; column < 24; column++) {
-            for (int what = 0; what <= 3; what++) {
-                d = d * 31 + square.cord(column, what);
-            }
-            for (int y = 0; y < 24; y++) {
-                for (int what = 0; what <= 2; what++) {
-                    d = d * 31 + square.cell(column, y, what);
-                }
-            }
-        }
-        return d;
+        return square;
     }
 }

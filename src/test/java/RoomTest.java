@@ -3,8 +3,9 @@ import java.lang.management.ManagementFactory;
 
 /** The calls of a run make next to no objects: all working rows stand from the constructor on. */
 public final class RoomTest {
-    private static final int CALLS = 512;
-    private static final long ROOM_IN_BYTES = 200_000;
+    /** With the 18 calls before them, 11 calls each time stay below an object's 512. */
+    private static final int TIMES = 44;
+    private static final long ROOM_IN_BYTES = 20_000;
 
     public static void main(String[] args) {
         MarketAwnings warm = full();
@@ -13,9 +14,9 @@ public final class RoomTest {
         ThreadMXBean threads = (ThreadMXBean) ManagementFactory.getThreadMXBean();
         long thread = Thread.currentThread().getId();
         long before = threads.getThreadAllocatedBytes(thread);
-        everything(square, CALLS);
+        everything(square, TIMES);
         long made = threads.getThreadAllocatedBytes(thread) - before;
-        Check.is("room: " + CALLS + " times every call made " + made + " bytes, too many", made > ROOM_IN_BYTES, false);
+        Check.is("room: " + TIMES + " times every call made " + made + " bytes, too many", made > ROOM_IN_BYTES, false);
         Check.end("RoomTest");
     }
 
